@@ -1079,7 +1079,7 @@ public final class TentBearers {
             int from = 0;
             // There are 5040 ROWS of seven at most.
             for (int i = 0; i < 5040 && from >= 0; i++) {
-                int told = tryRow(from);
+                int told = followRow(from);
                 from = stepBefore(nextRow(told));
             }
         }
@@ -1099,7 +1099,7 @@ public final class TentBearers {
          * begin so fare alike, and this one is the least of them. HUNGER is not looked at, for every
          * ROW has the same: each evening is eaten what is needed, or all that is there.
          */
-        private int tryRow(int from) {
+        private int followRow(int from) {
             int stages = Math.min(MOST_STAGES, tale.stages - steps[0].day);
             for (int step = from; step < stages; step++) {
                 Camp camp = steps[step + 1];
