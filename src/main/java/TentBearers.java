@@ -1063,7 +1063,7 @@ public final class TentBearers {
         /** The lower number is a power of ten: nothing but 2 and 5 can be common. */
         private void shorten(int prime) {
             for (int i = 0; i < MOST_STAGES; i++) {
-                if (upper % prime == 0 && lower % prime == 0) {
+                if (prime > 1 && upper % prime == 0 && lower % prime == 0) {
                     upper /= prime;
                     lower /= prime;
                 }
@@ -1112,9 +1112,28 @@ public final class TentBearers {
                     return reached[step];
                 }
                 reached[step + 1] = Math.max(reached[step], camp.feed(row, foods));
+                int told = toldAsTurned(step);
+                if (told > 0) {
+                    return told;
+                }
                 camp.settle(rains);
             }
             judge(0);
+            return 0;
+        }
+
+        /**
+         * Two that are begun and emptied on one evening may change places, and the lesser first makes
+         * the lesser ROW. How much of the ROW tells that it is not so; 0: nothing does.
+         */
+        private int toldAsTurned(int step) {
+            int begun = reached[step + 1];
+            for (int i = reached[step] + 1; i < begun; i++) {
+                boolean isEmptied = i < begun - 1 || steps[step + 1].left[row[i]] == 0;
+                if (isEmptied && row[i] < row[i - 1]) {
+                    return i + 1;
+                }
+            }
             return 0;
         }
 

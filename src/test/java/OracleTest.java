@@ -105,12 +105,18 @@ public final class OracleTest {
             int stages = chance.nextInt(15) == 0 ? 0 : 1 + upTo(upTo(3) == 0 ? 7 : 4);
             int strongest = upTo(2) == 0 ? 40 : 20;
             boolean manyFoods = upTo(2) == 0 && things < 6;
+            if (number % 40 == 0 && walkers > 0) {
+                things = 6;
+                stages = 3 + upTo(5);
+                manyFoods = true;
+            }
+            int light = number % 80 == 0 ? 3 : 8;
             for (int i = 0; i < walkers; i++) {
                 s.append("w").append(1 + upTo(strongest - 1)).append(' ').append(upTo(5)).append(';');
             }
             for (int i = 0; i < things; i++) {
                 int food = manyFoods || upTo(2) == 0 ? 1 : 0;
-                s.append("t").append(1 + upTo(upTo(1) == 0 ? 19 : 7)).append(' ').append(upTo(9)).append(' ').append(food);
+                s.append("t").append(1 + upTo(upTo(1) == 0 && things < 6 ? 19 : light - 1)).append(' ').append(upTo(9)).append(' ').append(food);
                 s.append(' ').append(upTo(3)).append(' ').append(upTo(walkers - 1)).append(';');
             }
             for (int i = 0; i < stages; i++) {

@@ -155,6 +155,8 @@ public final class PromisesTest {
         fault("x5 1;", 0);
         fault("ww5 1;", 0);
         fault("w t", 2);
+        fault("wz5 1;", 0);
+        fault("aw5 1;", 0);
         fault("W5 1;", 0);
         fault("w5\t1;", 2);
         fault("w5,1;", 2);
@@ -647,6 +649,10 @@ public final class PromisesTest {
         due("eat(1)", y.eat(1), 68);
         due("no FOOD", told(TWO).eat(0), 0);
         due("no FOOD", told(TWO).eat(1), 75);
+        // Only the last one, of 2, must be eaten first: it soaks most.
+        due("the last first", told("w10 0;t2 0 1 0 0;t2 0 1 0 0;t2 9 1 0 0;s10 1 0;s10 1 0;").eat(0), 312);
+        // Two that are eaten on one evening stand by their numbers.
+        due("3 and 2 on one evening", told("w30 0;w10 0;t4 0 1 0 0;t2 0 1 0 1;t2 0 1 0 1;s10 0 0;s10 0 0;").eat(0), 231);
         String seven = "w40 5;w40 5;w40 5;w40 5;t20 9 1 1 0;t20 9 1 1 0;t20 9 1 2 0;t20 9 1 2 0;t20 9 1 3 0;t20 9 1 3 0;"
             + "t20 9 1 0 0;";
         due("all alike", told(seven + "s20 1 0;s20 1 0;s20 1 0;s20 1 0;s20 1 0;s20 1 0;s20 1 0;s20 1 0;").eat(0), 1234567);
@@ -853,6 +859,22 @@ public final class PromisesTest {
         for (int far : FAR) {
             due("keep", x.keep(far), BAD);
             due("back", x.back(far), BAD);
+        }
+        // More than are known, so that the ring of them is written over behind the IMAGE.
+        TentBearers z = told(TWO);
+        for (int i = 0; i < 12; i++) {
+            z.gives(0, (i + 1) % 2);
+        }
+        z.keep(0);
+        for (int i = 0; i < 11; i++) {
+            z.gives(1, (i + 1) % 2);
+        }
+        due("back(0)", z.back(0), 0);
+        for (int i = 9; i >= 0; i--) {
+            due("undo()", z.undo(), i);
+            due("thing(0, 4)", z.thing(0, 4), i % 2 == 0 ? 0 : 1);
+            due("thing(1, 4)", z.thing(1, 4), 0);
+            due("now(7)", z.now(7), i + 2);
         }
         TentBearers y = told(TWO);
         y.keep(1);
