@@ -21,7 +21,7 @@ public final class FaceTest {
         "int rest(int)", "int spent(int)", "int soonest(int)", "int helps()", "int leave(int,int)", "int eat(int)",
         "int truly(int,int,int,int)", "long odds(int,int,int)", "int book(int,int,int)", "int burn()", "int sacks(int)",
         "int mark(int,int)", "int keep(int)", "int back(int)", "int count(int)", "long trace()");
-    private static final List<String> CONSTANTS = List.of("BAD", "STATE", "FULL", "NONE", "NO");
+    private static final List<String> CONSTANTS = List.of("BAD -1", "FULL -3", "NO -1000000", "NONE -9", "STATE -2");
     private static final List<String> FORBIDDEN = List.of("throw", "throws", "try", "catch", "finally", "synchronized", "assert",
         "import", "package", "protected", "native", "volatile", "hashCode", "getClass", "System\\.(?!arraycopy)", "\\w+Exact",
         "->", "::", "@", "new \\w+\\(\\) \\{", "static \\{", "while \\(true\\)", "for \\(;;\\)");
@@ -35,7 +35,7 @@ public final class FaceTest {
         }
     }
 
-    public static void main(String[] args) throws IOException {
+    public static void main(String[] args) throws IOException, IllegalAccessException {
         face();
         inside();
         words(Files.readString(Path.of("src/main/java/TentBearers.java"), StandardCharsets.ISO_8859_1));
@@ -45,7 +45,7 @@ public final class FaceTest {
         }
     }
 
-    private static void face() {
+    private static void face() throws IllegalAccessException {
         Class<?> c = TentBearers.class;
         check(Modifier.isPublic(c.getModifiers()) && Modifier.isFinal(c.getModifiers()), "the class is public and final");
         Set<String> open = new TreeSet<>();
@@ -61,7 +61,7 @@ public final class FaceTest {
             if (!Modifier.isPrivate(f.getModifiers()) && !f.isSynthetic()) {
                 check(f.getType() == int.class && Modifier.isStatic(f.getModifiers()) && Modifier.isFinal(f.getModifiers()),
                     f + " is no constant");
-                constants.add(f.getName());
+                constants.add(f.getName() + " " + f.getInt(null));
             }
         }
         check(constants.equals(new TreeSet<>(CONSTANTS)), "the constants are " + constants);
