@@ -18,6 +18,9 @@ public final class OracleTest {
         for (int run = 0; run < 4000 && wrong < 20; run++) {
             new Run(run).go();
         }
+        for (int run = 0; run < 120 && wrong < 20; run++) {
+            new Run(10000 + run).eatSeven();
+        }
         System.out.println(calls + " calls compared, " + wrong + " answers are not as due");
         if (wrong != 0) {
             System.exit(1);
@@ -67,6 +70,39 @@ public final class OracleTest {
                     lookAtAll();
                 }
             }
+        }
+
+        /** Chance calls seldom come to the longest ROWS with a long way ahead. */
+        void eatSeven() {
+            tell(textOfSevenFoods());
+            for (int i = upTo(2); i > 0; i--) {
+                int t = upTo(6);
+                check("leaves(" + t + ")", got.leaves(t), due.leaves(t));
+            }
+            for (int i = upTo(2); i > 0; i--) {
+                check("goes()", got.goes(), due.goes());
+            }
+            for (int what = 0; what <= 1; what++) {
+                check("eat(" + what + ")", got.eat(what), due.eat(what));
+            }
+        }
+
+        String textOfSevenFoods() {
+            StringBuilder s = new StringBuilder();
+            int walkers = 1 + upTo(upTo(2));
+            int strongest = 5 + upTo(20);
+            int heaviest = 1 + walkers * (1 + upTo(3));
+            for (int i = 0; i < walkers; i++) {
+                s.append('w').append(1 + upTo(strongest)).append(' ').append(upTo(5)).append(';');
+            }
+            for (int i = 0; i < 7; i++) {
+                s.append('t').append(1 + upTo(heaviest)).append(' ').append(upTo(9)).append(" 1 0 ").append(upTo(walkers - 1)).append(';');
+            }
+            int stages = 4 + upTo(4);
+            for (int i = 0; i < stages; i++) {
+                s.append('s').append(1 + upTo(19)).append(' ').append(upTo(1)).append(" 1;");
+            }
+            return s.toString();
         }
 
         void check(String call, long answer, long want) {
